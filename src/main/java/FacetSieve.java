@@ -862,8 +862,10 @@ public final class FacetSieve {
             return cost == 2 * runs(bits) ? RUNS : BITS;
         }
 
+        /** Counts the runs by itself: a question's joins stand as many calls deep as the rules allow. */
         static int cost(int bits) {
-            return Math.min(Math.min(Integer.bitCount(bits), 2 * runs(bits)), BITS_COST);
+            int runsCost = 2 * Integer.bitCount(bits & ~(bits << 1));
+            return Math.min(Math.min(Integer.bitCount(bits), runsCost), BITS_COST);
         }
 
         static int joined(int one, int other, int join) {
@@ -1621,22 +1623,18 @@ public final class FacetSieve {
                     endPart();
                     break;
                 case Tokens.CLOSE:
-                    return closeInner();
+                    if (depth == 0) {
+                        return tokens.fail(Tokens.NO_TEXT);
+                    }
+                    // A question in brackets is a fact of the depth around it.
+                    endPart();
+                    depth--;
+                    endFact();
+                    return true;
                 default:
                     return tokens.fail(Tokens.NO_TEXT);
             }
             factDue = true;
-            return true;
-        }
-
-        /** A question in brackets is a fact of the depth around it. */
-        private boolean closeInner() {
-            if (depth == 0) {
-                return tokens.fail(Tokens.NO_TEXT);
-            }
-            endPart();
-            depth--;
-            endFact();
             return true;
         }
 

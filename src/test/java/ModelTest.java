@@ -1092,6 +1092,10 @@ public final class ModelTest {
         due("end(0)", x.end(0), m.end(0));
         String text = spoiled(someQuestion(0), 10);
         tell(text.length() > 600 ? text.substring(0, 600) : text);
+        if (chance(20)) {
+            int k = some(2);
+            due("image(" + k + ")", x.image(k), m.image(k));
+        }
         due("ask() of " + text, x.ask(), m.ask());
         askFault();
         for (int what = 0; what < 3; what++) {
@@ -1172,7 +1176,11 @@ public final class ModelTest {
 
     private void rarely() {
         int k = some(2);
-        switch (upTo(7)) {
+        switch (upTo(8)) {
+            case 8 -> {
+                due("ask() as the tape is", x.ask(), m.ask());
+                askFault();
+            }
             case 0 -> due("image(" + k + ")", x.image(k), m.image(k));
             case 1 -> due("again(" + k + ")", x.again(k), m.again(k));
             case 2 -> due("asked(" + k + ")", x.asked(k), m.asked(k));

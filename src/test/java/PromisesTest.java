@@ -224,6 +224,12 @@ public final class PromisesTest {
         question("all less blue less bike", 8, 2, 0, 33);
         question("all less[blue\nor bike]", 7, 2, 0, 33);
         question("blue or bike and car", 5, 2, 1, 2);
+        // At every depth a part and a fact wait, while all that is deeper is read.
+        String deepest = "bike";
+        for (int depth = 0; depth <= 6; depth++) {
+            deepest = "blue or car and " + (depth == 0 ? deepest : "[" + deepest + "]");
+        }
+        question(deepest, 5 + 6 * 6, 2, 1, 2);
         StringBuilder thirty = new StringBuilder("all");
         for (int i = 1; i < 30; i++) {
             thirty.append(" or all");
@@ -643,7 +649,7 @@ public final class PromisesTest {
         x.choose(3, 1);
         x.go(1, true);
         x.tag(0, 2);
-        tell(x, "abc");
+        tell(x, "car");
         due("image 0", x.image(0), true);
         due("an image leaves the acts", x.count(10), 2);
         tell(x, "x");
@@ -666,6 +672,8 @@ public final class PromisesTest {
         due("chosen", x.value(3, 9), 1);
         due("by all", x.head(1, 2), 1);
         due("no acts", x.undo(), NONE);
+        due("the tape's bytes", x.ask(), 2);
+        due("asked of the tape", x.asked(11), 1);
         x.drop(0);
         due("once more", x.again(0), true);
         due("the image did not follow", x.record(0, 0), 5);

@@ -1560,6 +1560,9 @@ public final class FacetSieve {
             boolean fine = true;
             for (int i = 0; fine && tokens.kind != Tokens.STOP && i < MOST_BYTES; i++) {
                 fine = factDue ? readFact() : readJoin();
+                if (fine && !factDue) {
+                    joinFact();
+                }
                 if (fine) {
                     tokens.step();
                 }
@@ -1607,7 +1610,7 @@ public final class FacetSieve {
             facts++;
             stack.copyRow(height, stock.sets, row);
             height++;
-            endFact();
+            factDue = false;
             return true;
         }
 
@@ -1629,7 +1632,6 @@ public final class FacetSieve {
                     // A question in brackets is a fact of the depth around it.
                     endPart();
                     depth--;
-                    endFact();
                     return true;
                 default:
                     return tokens.fail(Tokens.NO_TEXT);
@@ -1638,12 +1640,12 @@ public final class FacetSieve {
             return true;
         }
 
-        private void endFact() {
+        /** Called by the loop itself, not by what reads a fact: a join stands as many calls deep as may be. */
+        private void joinFact() {
             if (joins[depth] != NONE) {
                 joinTopTwo(joins[depth]);
                 joins[depth] = NONE;
             }
-            factDue = false;
         }
 
         private void endPart() {

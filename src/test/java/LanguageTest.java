@@ -1,14 +1,21 @@
+import java.io.PrintWriter;
+import java.io.StringWriter;
 import java.lang.reflect.Constructor;
 import java.lang.reflect.Field;
 import java.lang.reflect.Method;
 import java.lang.reflect.Modifier;
 import java.nio.file.Files;
 import java.nio.file.Path;
+import java.util.ArrayList;
 import java.util.Arrays;
+import java.util.List;
+import java.util.Map;
 import java.util.Set;
+import java.util.TreeMap;
 import java.util.TreeSet;
 import java.util.regex.Matcher;
 import java.util.regex.Pattern;
+import java.util.spi.ToolProvider;
 
 /** The class has the document's face and no other, and keeps to those rules of LANGUAGE.md that can be seen. */
 public final class LanguageTest {
@@ -118,9 +125,66 @@ public final class LanguageTest {
         }
     }
 
+    /** The classes as the JDK's own tool takes them apart: which method calls which. */
+    private static Map<String, Set<String>> calls() throws Exception {
+        List<String> words = new ArrayList<>(List.of("-p", "-c", "-cp", System.getProperty("java.class.path"), "FacetSieve"));
+        for (Class<?> inside : FacetSieve.class.getDeclaredClasses()) {
+            words.add(inside.getName());
+        }
+        StringWriter out = new StringWriter();
+        ToolProvider.findFirst("javap").orElseThrow().run(new PrintWriter(out), new PrintWriter(System.out, true),
+            words.toArray(new String[0]));
+        Pattern classLine = Pattern.compile("^\\S.*\\bclass (\\S+) .*");
+        Pattern methodLine = Pattern.compile("^  \\S.*?([\\w$]+)\\(.*\\);$");
+        Pattern callLine = Pattern.compile(".*// (?:Interface)?Method (\\S+?):.*");
+        Map<String, Set<String>> calls = new TreeMap<>();
+        String inside = "";
+        String caller = "";
+        for (String line : out.toString().split("\\R")) {
+            Matcher isClass = classLine.matcher(line);
+            Matcher isMethod = methodLine.matcher(line);
+            Matcher isCall = callLine.matcher(line);
+            if (isClass.matches()) {
+                inside = isClass.group(1);
+            } else if (isMethod.matches()) {
+                String name = isMethod.group(1);
+                caller = inside + "." + (name.equals(inside) ? "<init>" : name);
+                calls.putIfAbsent(caller, new TreeSet<>());
+            } else if (isCall.matches() && calls.containsKey(caller)) {
+                String called = isCall.group(1).replace("\"", "");
+                calls.get(caller).add(called.contains(".") ? called : inside + "." + called);
+            }
+        }
+        return calls;
+    }
+
+    private static List<String> deepest(Map<String, Set<String>> calls, String from, int room) {
+        List<String> longest = List.of();
+        for (String called : room == 0 ? Set.<String>of() : calls.getOrDefault(from, Set.of())) {
+            List<String> chain = deepest(calls, called, room - 1);
+            longest = chain.size() > longest.size() ? chain : longest;
+        }
+        List<String> whole = new ArrayList<>(List.of(from));
+        whole.addAll(longest);
+        return whole;
+    }
+
+    /** Rule 11, the library's calls counted, too; a method that calls itself would seem endlessly deep. */
+    private static void depth() throws Exception {
+        Map<String, Set<String>> calls = calls();
+        int most = 0;
+        for (String method : calls.keySet()) {
+            List<String> chain = deepest(calls, method, 20);
+            most = Math.max(most, chain.size());
+            check(chain.size() <= 8, "calls at most eight deep: " + chain);
+        }
+        check(most >= 4 && calls.containsKey("FacetSieve.ask"), "calls that can be seen");
+    }
+
     public static void main(String[] args) throws Exception {
         face();
         text();
+        depth();
         System.out.println(wrong == 0 ? "face and language are kept" : wrong + " rules are not kept");
         if (wrong != 0) {
             System.exit(1);

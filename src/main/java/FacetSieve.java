@@ -34,7 +34,6 @@ public final class FacetSieve {
     private final Journal journal;
     private final SchemeReader schemes;
     private final QuestionReader questions;
-    private final Tokens tokens;
     /** One row, made once: what is left, looked up anew by each call that needs it. */
     private final Sets leftRow;
 
@@ -42,9 +41,8 @@ public final class FacetSieve {
         now = new Everything();
         images = new Everything[IMAGES];
         journal = new Journal();
-        tokens = new Tokens(now.tape);
-        schemes = new SchemeReader(tokens);
-        questions = new QuestionReader(tokens, now.stock);
+        schemes = new SchemeReader();
+        questions = new QuestionReader();
         leftRow = new Sets(1);
     }
 
@@ -72,8 +70,8 @@ public final class FacetSieve {
     }
 
     public int scheme() {
-        boolean fine = schemes.readScheme();
-        takeTape();
+        boolean fine = schemes.readScheme(now.tape);
+        now.noteFault(schemes.tokens);
         if (!fine) {
             return NONE;
         }
@@ -84,8 +82,8 @@ public final class FacetSieve {
     }
 
     public int ask() {
-        boolean fine = questions.readWhole();
-        takeTape();
+        boolean fine = questions.readWhole(now.tape, now.stock);
+        now.noteFault(questions.tokens);
         if (!fine) {
             return NONE;
         }
@@ -490,12 +488,6 @@ public final class FacetSieve {
         return NONE;
     }
 
-    private void takeTape() {
-        now.faultKind = tokens.faultKind;
-        now.faultPlace = tokens.faultPlace;
-        now.tape.length = 0;
-    }
-
     private int refuse(int reason) {
         return now.noteRefusal(reason, NONE);
     }
@@ -643,7 +635,7 @@ public final class FacetSieve {
         }
     }
 
-    /** Reads a tape token by token and keeps the first fault that is met. */
+    /** Takes a tape, reads it token by token and keeps the first fault that is met. */
     private static final class Tokens {
         static final int STOP = 0;
         static final int WRONG = 1;
@@ -696,7 +688,8 @@ public final class FacetSieve {
             | ('s' & 31L) << 15;
         private static final long ALL_WORD = ('a' & 31L) | ('l' & 31L) << 5 | ('l' & 31L) << 10;
 
-        private final Tape tape;
+        /** A copy of its own: the tape that was taken is empty already while this is read. */
+        private final Tape tape = new Tape();
         private int next;
         int kind;
         int place;
@@ -706,11 +699,10 @@ public final class FacetSieve {
         int faultKind;
         int faultPlace;
 
-        Tokens(Tape tape) {
-            this.tape = tape;
-        }
-
-        void start() {
+        /** Stands at the first token then. */
+        void take(Tape given) {
+            tape.copyFrom(given);
+            given.length = 0;
             next = 0;
             faultKind = 0;
             faultPlace = NONE;
@@ -1355,6 +1347,11 @@ public final class FacetSieve {
             holder = other.holder;
         }
 
+        void noteFault(Tokens tokens) {
+            faultKind = tokens.faultKind;
+            faultPlace = tokens.faultPlace;
+        }
+
         /** Answers the reason, so that an act can leave with it. */
         int noteRefusal(int newReason, int newHolder) {
             reason = newReason;
@@ -1382,16 +1379,12 @@ public final class FacetSieve {
 
     /** Takes a tape as a scheme, into a draft: a fault must leave all else as it was. */
     private static final class SchemeReader {
-        private final Tokens tokens;
+        final Tokens tokens = new Tokens();
         final Stock draft = new Stock();
 
-        SchemeReader(Tokens tokens) {
-            this.tokens = tokens;
-        }
-
-        boolean readScheme() {
+        boolean readScheme(Tape tape) {
             draft.clear();
-            tokens.start();
+            tokens.take(tape);
             boolean fine = true;
             for (int line = 0; fine && tokens.kind != Tokens.STOP && line < MOST_BYTES; line++) {
                 fine = readLine();
@@ -1532,8 +1525,7 @@ public final class FacetSieve {
         /** Each depth keeps at most a part and a fact waiting; one more is being read. */
         private static final int STACK_ROWS = 2 * (DEEPEST + 1) + 1;
 
-        private final Tokens tokens;
-        private final Stock stock;
+        final Tokens tokens = new Tokens();
         final Sets stack = new Sets(STACK_ROWS);
         /** By depth: the join (and, less) that waits for its second fact, or NONE. */
         private final int[] joins = new int[DEEPEST + 1];
@@ -1545,21 +1537,16 @@ public final class FacetSieve {
         private int facts;
         int work;
 
-        QuestionReader(Tokens tokens, Stock stock) {
-            this.tokens = tokens;
-            this.stock = stock;
-        }
-
         /** If true, the answer is the stack's first row. */
-        boolean readWhole() {
+        boolean readWhole(Tape tape, Stock stock) {
             height = 0;
             facts = 0;
             work = 0;
             startDepth(0);
-            tokens.start();
+            tokens.take(tape);
             boolean fine = true;
             for (int i = 0; fine && tokens.kind != Tokens.STOP && i < MOST_BYTES; i++) {
-                fine = factDue ? readFact() : readJoin();
+                fine = factDue ? readFact(stock) : readJoin();
                 if (fine && !factDue) {
                     joinFact();
                 }
@@ -1583,12 +1570,12 @@ public final class FacetSieve {
             factDue = true;
         }
 
-        private boolean readFact() {
+        private boolean readFact(Stock stock) {
             switch (tokens.kind) {
                 case Tokens.NAME:
-                    return readSet(stock.plan.valueNamed(tokens.word));
+                    return readSet(stock.sets, stock.plan.valueNamed(tokens.word));
                 case Tokens.ALL:
-                    return readSet(EVERYONE);
+                    return readSet(stock.sets, EVERYONE);
                 case Tokens.OPEN:
                     if (depth >= DEEPEST) {
                         return tokens.fail(Tokens.TOO_DEEP);
@@ -1600,7 +1587,7 @@ public final class FacetSieve {
             }
         }
 
-        private boolean readSet(int row) {
+        private boolean readSet(Sets sets, int row) {
             if (row == NONE) {
                 return tokens.fail(Tokens.BAD_NAME);
             }
@@ -1608,7 +1595,7 @@ public final class FacetSieve {
                 return tokens.fail(Tokens.TOO_LONG);
             }
             facts++;
-            stack.copyRow(height, stock.sets, row);
+            stack.copyRow(height, sets, row);
             height++;
             factDue = false;
             return true;

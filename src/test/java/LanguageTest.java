@@ -32,6 +32,12 @@ public final class LanguageTest {
         "\\bthrow\\b", "\\btry\\b", "\\bcatch\\b", "\\bsynchronized\\b", "\\bassert\\b", "->", "::",
         "\\bprotected\\b", "\\bObject\\b", "Exact\\s*\\(", "\\bSystem\\.(?!arraycopy\\b)", "\\bRandom\\b", "\\bThread\\b",
         "\\bequals\\b", "\\bhashCode\\b", "\\btoString\\b", "^package\\b", "\\bvar\\b", "static\\s*\\{"};
+    /** What the class needs of rule 4's list; another call of the library is to be looked up there first. */
+    private static final Set<String> LIBRARY = Set.of(
+        "java/lang/Object.<init>", "java/lang/Integer.bitCount", "java/lang/Math.max", "java/lang/Math.min",
+        "java/lang/System.arraycopy", "java/util/Arrays.fill");
+    /** Rule 12: objects are made by constructors, and by the one call that keeps an image. */
+    private static final String IMAGE_MAKER = "FacetSieve.image";
     private static int wrong = 0;
 
     private static void check(boolean fine, String what) {
@@ -88,6 +94,12 @@ public final class LanguageTest {
             check(!isStatic || Modifier.isFinal(field.getModifiers()), "final " + field);
         }
         check(fields <= 20, "at most twenty fields in " + inside.getName());
+        for (Constructor<?> made : inside.getDeclaredConstructors()) {
+            for (Class<?> type : made.getParameterTypes()) {
+                // Rule 12: what takes numbers alone can't be handed a part of the object that is being made.
+                check(type.isPrimitive(), "a constructor that takes numbers alone: " + made);
+            }
+        }
         for (Method method : inside.getDeclaredMethods()) {
             check(!names.contains(method.getName()), "no method inside named as a public one: " + method);
             check(method.getParameterCount() <= 7, "at most seven parameters: " + method);
@@ -135,8 +147,9 @@ public final class LanguageTest {
         ToolProvider.findFirst("javap").orElseThrow().run(new PrintWriter(out), new PrintWriter(System.out, true),
             words.toArray(new String[0]));
         Pattern classLine = Pattern.compile("^\\S.*\\bclass (\\S+) .*");
-        Pattern methodLine = Pattern.compile("^  \\S.*?([\\w$]+)\\(.*\\);$");
+        Pattern methodLine = Pattern.compile("^  (?=\\S).*?([\\w$]+)\\(.*\\);$");
         Pattern callLine = Pattern.compile(".*// (?:Interface)?Method (\\S+?):.*");
+        Pattern makingLine = Pattern.compile(" +\\d+: (new|newarray|anewarray|multianewarray|invokedynamic)\\b.*");
         Map<String, Set<String>> calls = new TreeMap<>();
         String inside = "";
         String caller = "";
@@ -150,6 +163,8 @@ public final class LanguageTest {
                 String name = isMethod.group(1);
                 caller = inside + "." + (name.equals(inside) ? "<init>" : name);
                 calls.putIfAbsent(caller, new TreeSet<>());
+            } else if (makingLine.matcher(line).matches()) {
+                check(caller.endsWith(".<init>") || caller.equals(IMAGE_MAKER), "nothing made in " + caller + ":" + line);
             } else if (isCall.matches() && calls.containsKey(caller)) {
                 String called = isCall.group(1).replace("\"", "");
                 calls.get(caller).add(called.contains(".") ? called : inside + "." + called);
@@ -169,8 +184,8 @@ public final class LanguageTest {
         return whole;
     }
 
-    /** Rule 11, the library's calls counted, too; a method that calls itself would seem endlessly deep. */
-    private static void depth() throws Exception {
+    /** Rules 4 and 11, the library's calls counted, too; a method that calls itself would seem endlessly deep. */
+    private static void callsMade() throws Exception {
         Map<String, Set<String>> calls = calls();
         int most = 0;
         for (String method : calls.keySet()) {
@@ -178,13 +193,18 @@ public final class LanguageTest {
             most = Math.max(most, chain.size());
             check(chain.size() <= 8, "calls at most eight deep: " + chain);
         }
+        for (Set<String> called : calls.values()) {
+            for (String method : called) {
+                check(calls.containsKey(method) || LIBRARY.contains(method), "no call of " + method);
+            }
+        }
         check(most >= 4 && calls.containsKey("FacetSieve.ask"), "calls that can be seen");
     }
 
     public static void main(String[] args) throws Exception {
         face();
         text();
-        depth();
+        callsMade();
         System.out.println(wrong == 0 ? "face and language are kept" : wrong + " rules are not kept");
         if (wrong != 0) {
             System.exit(1);
